@@ -714,7 +714,7 @@ public final class LateMirrors {
     }
 
     public int rests(int man, int other, int i) {
-        if (!isMan(man) || !isMan(other) || man == other || i < NONE) {
+        if (!isMan(man) || !isMan(other) || man == other) {
             return NONE;
         }
         int ofOthers = ~(1 << man | 1 << other);
@@ -771,7 +771,7 @@ public final class LateMirrors {
     }
 
     public int began(int man, int k, int i) {
-        if (!isMan(man) || k < 0 || k > knownSize || i < NONE) {
+        if (!isMan(man) || k < 0 || k > knownSize) {
             return NONE;
         }
         int found = 0;
@@ -1026,8 +1026,6 @@ public final class LateMirrors {
             size = 0;
             faultAt = NONE;
             tellKind = NONE;
-            brackets = 0;
-            ifs = 0;
             for (int i = 0; i < tells.length; i++) {
                 put(tells, i, 0);
             }
@@ -1220,7 +1218,6 @@ public final class LateMirrors {
                     return kind == W_ELSE;
                 default:
                     tellKind = NONE;
-                    ifs = 0;
                     return kind == ';';
             }
         }
@@ -1567,7 +1564,7 @@ public final class LateMirrors {
         private int waysOf(int room) {
             int ways = 0;
             for (int door = 0; door < doors; door++) {
-                if (doorEnd(door, 0) == room || doorEnd(door, 1) == room) {
+                if (at(doorEnds, door * 2) == room || at(doorEnds, door * 2 + 1) == room) {
                     ways++;
                 }
             }
@@ -1578,8 +1575,8 @@ public final class LateMirrors {
         private int wayTo(int room, int k) {
             int ways = 0;
             for (int door = 0; door < doors; door++) {
-                int one = doorEnd(door, 0);
-                int two = doorEnd(door, 1);
+                int one = at(doorEnds, door * 2);
+                int two = at(doorEnds, door * 2 + 1);
                 if (one == room || two == room) {
                     ways++;
                     if (ways == k) {
@@ -1607,8 +1604,8 @@ public final class LateMirrors {
 
     /** All that is and was, minute by minute; rows behind the minute that is now hold nothing. */
     private static final class Court {
-        /** The numbers that one minute's row and the breakages have together. */
-        private static final int KEPT = 2 + 2 * MEN + 3 * MIRRORS;
+        /** The numbers of one minute's row and of when each mirror broke. */
+        private static final int KEPT = 2 + 2 * MEN + 2 * MIRRORS;
 
         private Text text;
         private int minute;
@@ -1653,7 +1650,10 @@ public final class LateMirrors {
             copy(from.frozen, 0, frozen, 0, MIRRORS);
         }
 
-        /** Rows ahead of now never change again, so now's row and the breakages are enough to go back to it. */
+        /**
+         * Rows ahead of now never change again, nor what a broken mirror showed as it broke: so now's row and when each
+         * mirror broke are enough to go back to it.
+         */
         private void keepIn(int[] into, int from) {
             put(into, from, minute);
             put(into, from + 1, at(walls, minute));
@@ -1663,7 +1663,6 @@ public final class LateMirrors {
             next += 2 * MEN;
             copy(hangs, minute * MIRRORS, into, next, MIRRORS);
             copy(brokenAt, 0, into, next + MIRRORS, MIRRORS);
-            copy(frozen, 0, into, next + 2 * MIRRORS, MIRRORS);
         }
 
         private void goBackTo(int[] kept, int from) {
@@ -1675,7 +1674,6 @@ public final class LateMirrors {
             next += 2 * MEN;
             copy(kept, next, hangs, minute * MIRRORS, MIRRORS);
             copy(kept, next + MIRRORS, brokenAt, 0, MIRRORS);
-            copy(kept, next + 2 * MIRRORS, frozen, 0, MIRRORS);
             setLates();
         }
 

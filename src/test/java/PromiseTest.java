@@ -39,6 +39,7 @@ public final class PromiseTest {
         due("place of a new object", NONE, x.place());
         due("lonely of a new object", NOTHING, x.lonely());
         due("stand of a new object", NOTHING, x.stand(0));
+        due("crowd of a new object", NOTHING, x.crowd(0, 0));
         due("crowd of a new object", NOTHING, x.crowd(0, 1));
         due("oldest of a new object", NOTHING, x.oldest(1));
         due("undo of a new object", false, x.undo());
@@ -98,9 +99,57 @@ public final class PromiseTest {
         due("nothing is held", false, x.restore(0));
         due("read of an empty tape", 0, x.read());
         due("no rooms", 0, x.count(0));
+        readAfterOthers();
+        readLawsAfterOthers();
         Checks.court("\t\n\r ");
         Checks.court("room a;man m 0020 a;breaks 100;breaks 0;seed 9999;late=1;late=2;goes m=1;goes m=0;");
         due("names and words", 1, Checks.court("room rooms; room mirrorsx;").count(0) - 1);
+    }
+
+    /** Of the texts that an object has read ahead, nothing is left. */
+    private static void readAfterOthers() {
+        LateMirrors x = new LateMirrors();
+        String court = "room a; room b; door a b; man k 4 a; mirror g a k;";
+        String law = "1" + " + 1".repeat(120);
+        for (int n = 0; n < 5; n++) {
+            Checks.feed(x, court + "breaks 30; seed 7; goes k = 2 - 1; late = " + law + " - 115; ");
+            due("read", 0, x.read());
+            due("late", 6, x.mirror(0, 0, 1));
+            x.turn(0, true);
+            x.minutes(6);
+            due("gone", 0, x.man(0, 6, 0));
+            due("broken", 1, x.count(5));
+        }
+        for (int n = 0; n < 2; n++) {
+            Checks.feed(x, court);
+            due("read", 0, x.read());
+            due("not turned", 0, x.count(6));
+            due("late by rank", 4, x.mirror(0, 0, 1));
+            x.minutes(9);
+            due("he stays", 0, x.visits(0, 1));
+            due("whole", 0, x.count(5));
+            x.turn(0, true);
+        }
+        // the first lots of mirror 0 by seed 0 are 70 42 75 27, by seed 1 53 94 16 57, by seed 7 98 44 79 54
+        for (int n = 0; n < 2; n++) {
+            Checks.feed(x, court + "breaks 40;");
+            due("read", 0, x.read());
+            x.minutes(3);
+            due("no seed is seed 0", 0, x.count(5));
+            x.minutes(1);
+            due("no seed is seed 0", 1, x.count(5));
+        }
+    }
+
+    private static void readLawsAfterOthers() {
+        LateMirrors x = new LateMirrors();
+        String court = "room a; room b; door a b; man k 0 a; man m 0 a; goes n = 0; goes n = 1;";
+        for (String who : List.of("k", "k", "m", "k", "k", "m", "m")) {
+            Checks.feed(x, court.replace("goes n", "goes " + who));
+            due("read", 0, x.read());
+            due("k", who.equals("k") ? 1 : 0, x.willBe(0, 1));
+            due("m", who.equals("m") ? 1 : 0, x.willBe(1, 1));
+        }
     }
 
     private static void readFaultsKeepAll() {
@@ -572,6 +621,27 @@ public final class PromiseTest {
         due("but it was here when", 6, x.look(1, 0, NONE, 0));
         x.turn(1, true);
         due("shows nothing", NOTHING, x.look(1, 0, NONE, 0));
+        LateMirrors z = walk(4);
+        z.carry(1, 1);
+        z.minutes(1);
+        z.carry(1, 0);
+        z.minutes(1);
+        // at 6 mirror 1 hangs in a again and shows 4, when it hung in b; mirror 0 hung in a
+        due("the room where the last one hung", 1, z.look(0, 1, NONE, 1));
+        due("nobody in it", 0, z.look(0, 1, NONE, 2));
+        due("as it hung elsewhere then", NOTHING, z.look(0, 1, 0, 0));
+        z.carry(2, 0);
+        z.raise(2, 1);
+        z.minutes(1);
+        z.raise(2, 3);
+        // at 7: 2 hangs in a since 6, shows 4, when it hung in b; 0 shows 7, 1 shows 5
+        due("the last elsewhere then", 1, z.look(0, 2, NONE, 1));
+        LateMirrors w = Checks.court("room a; room b; man k 0 a; man m 3 a; mirror f a k; mirror g a k; mirror h b m;");
+        w.minutes(5);
+        w.carry(2, 0);
+        due("of three the last one's room", 1, w.look(0, 1, 2, 1));
+        due("of three the last one's men", 0, w.look(0, 1, 2, 2));
+        due("of three the last one's minute", 2, w.look(0, 1, 2, 0));
         LateMirrors y = walk(1);
         due("the last shows nothing", NOTHING, y.look(0, 1, NONE, 0));
         due("the first shows nothing", NOTHING, y.look(1, 0, NONE, 0));

@@ -151,7 +151,11 @@ public final class RandomRunsTest {
             if (!faults) {
                 pair.call(methods("minutes"), new int[] {random.nextInt(20)});
             }
-            pair.call(methods("mirror"), new int[] {0, 0, 6});
+            for (int i = 0; i < 3; i++) {
+                pair.call(methods("willBe"), new int[] {i, random.nextInt(9)});
+                pair.call(methods("mirror"), new int[] {i, 0, 1});
+            }
+            pair.call(methods("turn"), new int[] {random.nextInt(4), 1});
             pair.call(methods("hold"), new int[] {random.nextInt(3)});
         }
         return !pair.differs;

@@ -62,6 +62,8 @@ final class RandomText {
         }
         if (random.nextInt(3) == 0) {
             add("breaks " + upTo(random.nextBoolean() ? 100 : 6) + " ;");
+        }
+        if (random.nextInt(2) == 0) {
             add("seed " + upTo(9999) + " ;");
         }
         return joined();
@@ -133,11 +135,17 @@ final class RandomText {
     private void pileUp(int i) {
         String[][] piles = {{"("}, {"if", "1", "<", "2", "then", "3", "else"}, {"1", "+"}, {"door", "ra", "rb", ";"},
             {"room", "z", ";"}, {"man", "z", "1", "ra", ";"}, {"mirror", "z", "ra", "ma", ";"}, {"late", "=", "1", ";"}};
-        String[] pile = piles[random.nextInt(piles.length)];
+        int which = random.nextInt(piles.length);
         int times = random.nextInt(4) == 0 ? 120 : 1 + upTo(8);
+        int from = random.nextInt(4) == 0 ? i : behind(which < 3 ? "=" : ";", i);
         for (int n = 0; n < times; n++) {
-            tokens.addAll(i, List.of(pile));
+            tokens.addAll(from, List.of(piles[which]));
         }
+    }
+
+    private int behind(String token, int i) {
+        int found = tokens.subList(i, tokens.size()).indexOf(token);
+        return found < 0 ? i : i + found + 1;
     }
 
     /** Some number, of those that are looked at, is another one. */
