@@ -1255,6 +1255,26 @@ public final class BoundaryTest {
         }
     }
 
+    /** What each of eight SHOWED as it broke is held, and what would be goes on from it. */
+    private static void eachAsItBroke() {
+        for (int i = 0; i < 8; i++) {
+            LateMirrors x = court("room a;man k 0 a;mirror ga a k;mirror gb a k;mirror gc a k;mirror gd a k;"
+                    + "mirror ge a k;mirror gf a k;mirror gg a k;mirror gh a k;", 3);
+            x.smash(i);
+            x.hold(0);
+            x.undo();
+            x.minutes(2);
+            x.smash(i);
+            x.minutes(1);
+            all("II broken later", x, i, 6, 5, 0, 1);
+            due("P32 broken later", 1 << i, x.still(0, 5));
+            x.restore(0);
+            x.minutes(1);
+            all("P44 broken as held", x, i, 4, 3, 0, 1);
+            due("P32 broken as held", 1 << i, x.still(0, 3));
+        }
+    }
+
     private static void lawsLater() {
         String court = "room a; room b; room c; door a b; door b c; man k 0 a; man m 0 c; mirror g a k; goes k = ";
         LateMirrors x = court(court + "rank;", 3);
@@ -1326,6 +1346,7 @@ public final class BoundaryTest {
 
     public static void main(String[] args) {
         eachOfAll();
+        eachAsItBroke();
         lawsLater();
         changesLater();
         lawEdges();
