@@ -54,6 +54,45 @@ public final class LanguageTest {
         Checks.due("the class is final", true, Modifier.isFinal(LateMirrors.class.getModifiers()));
     }
 
+    /** Every line of the document's face is there, and nothing public beside them. */
+    private static void faceOfDocument() throws IOException {
+        String document = Files.readString(Path.of("../shared/DOC.md"));
+        Set<String> due = new TreeSet<>();
+        Matcher line = Pattern.compile("(?m)^ {4}public (.*);$").matcher(document);
+        while (line.find()) {
+            due.add(line.group(1).replaceAll(" \\w+(?=[,)])", ""));
+        }
+        Set<String> got = new TreeSet<>();
+        for (Method method : LateMirrors.class.getMethods()) {
+            if (method.getDeclaringClass() == LateMirrors.class) {
+                got.add(method.getReturnType() + " " + method.getName() + types(method.getParameterTypes()));
+            }
+        }
+        for (Constructor<?> constructor : LateMirrors.class.getConstructors()) {
+            got.add(constructor.getName() + types(constructor.getParameterTypes()));
+        }
+        for (Field field : LateMirrors.class.getFields()) {
+            got.add(Modifier.toString(field.getModifiers()).replace("public ", "") + " " + field.getType() + " "
+                    + field.getName() + " = -1");
+        }
+        Checks.due("NONE", -1, LateMirrors.NONE);
+        Checks.due("the lines of the document's face", 46, due.size());
+        for (String one : due) {
+            Checks.due("the face has " + one, true, got.contains(one));
+        }
+        for (String one : got) {
+            Checks.due("the document has " + one, true, due.contains(one));
+        }
+    }
+
+    private static String types(Class<?>[] types) {
+        StringBuilder told = new StringBuilder("(");
+        for (Class<?> type : types) {
+            told.append(told.length() > 1 ? ", " : "").append(type);
+        }
+        return told.append(')').toString();
+    }
+
     private static void source() throws IOException {
         String source = Files.readString(Path.of("src/main/java/LateMirrors.java"));
         String code = source.replaceAll("(?s)/\\*.*?\\*/", "").replaceAll("//[^\n]*", "");
@@ -73,6 +112,7 @@ public final class LanguageTest {
 
     public static void main(String[] args) throws IOException {
         face();
+        faceOfDocument();
         source();
         Checks.end();
     }
